@@ -372,6 +372,10 @@ public final class EclipseHouse {
             return isListed(i) ? listKind[i] : 0;
         }
 
+        boolean isOfSunAt(int i) {
+            return moonAt(i) % 2 == 0;
+        }
+
         int timeAt(int i) {
             return isListed(i) ? listTime[i] : 0;
         }
@@ -730,22 +734,32 @@ public final class EclipseHouse {
             return slows;
         }
 
+        /** By hours, not by SLOWS: many SLOWS fall into one hour, and all that is asked hangs on it. */
         private long slowsMeaning(Sky sky, int i) {
+            int time = sky.timeAt(i);
+            boolean isOfSun = sky.isOfSunAt(i);
+            int last = hoursAt(time, MOST_SLOW);
             long found = 0;
-            int latest = NONE;
-            boolean fits = false;
-            for (int s = 0; s <= MOST_SLOW; s++) {
-                int hours = hoursSeen(sky, i, s);
-                // Many SLOWS fall into one hour, and all that is asked hangs on the hour alone.
-                if (hours != latest) {
-                    latest = hours;
-                    fits = hours != NONE && slipsAt(hours, 0) == 0;
+            for (int hours = hoursAt(time, 0); hours <= last; hours++) {
+                if (isSeenAt(hours, isOfSun) && slipsAt(hours, 0) == 0) {
+                    found |= slowsWithin(hours, time);
                 }
-                if (fits) {
+            }
+            return found;
+        }
+
+        private long slowsWithin(int hours, int time) {
+            long found = 0;
+            for (int s = 0; s <= MOST_SLOW; s++) {
+                if (hoursAt(time, s) == hours) {
                     found |= 1L << s;
                 }
             }
             return found;
+        }
+
+        private int hoursAt(int time, int s) {
+            return Math.floorDiv(Sky.minuteSeen(time, east, s), 60);
         }
 
         private boolean isOfKind(Sky sky, int i) {
@@ -762,15 +776,17 @@ public final class EclipseHouse {
             if (!isOfKind(sky, i)) {
                 return NONE;
             }
-            int minute = Sky.minuteSeen(sky.timeAt(i), east, s);
-            if (minute < 0) {
-                return NONE;
+            int hours = hoursAt(sky.timeAt(i), s);
+            return isSeenAt(hours, sky.isOfSunAt(i)) ? hours : NONE;
+        }
+
+        private static boolean isSeenAt(int hours, boolean isOfSun) {
+            if (hours < 0) {
+                return false;
             }
-            int hours = minute / 60;
             int hour = hours % 24;
             boolean isLight = hour >= 6 && hour <= 17;
-            boolean isOfSun = sky.kindAt(i) <= 3;
-            return isLight == isOfSun ? hours : NONE;
+            return isLight == isOfSun;
         }
 
         /** How many numbers would have to be others then; counted no further once above enough. */
