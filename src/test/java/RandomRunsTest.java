@@ -10,6 +10,10 @@ public final class RandomRunsTest {
     private static final String[] WORDS = {"sun", "moon", "total", "ring", "part", "whole", "half", "year", "month", "day", "hour",
         "of", "in", "even", "leap", "moons", ";", "0", "5", "12", "007", "999", "1000", "14", "32", "24", "ab", "abcdefg", "X", "\n", " "};
 
+    private static final int MOST_CALLS = 512;
+    // A RECORD of 180 bytes: end, nine times feed, end, record, twice fault, and one to spare.
+    private static final int MOST_OF_STEP = 15;
+
     private final Random random;
     private final Due due;
     private final EclipseHouse house = new EclipseHouse();
@@ -34,8 +38,11 @@ public final class RandomRunsTest {
     }
 
     private void run(int seed) {
-        while (calls < 512 && due.wrong() == 0) {
+        while (calls <= MOST_CALLS - MOST_OF_STEP && due.wrong() == 0) {
             step();
+        }
+        while (calls < MOST_CALLS && due.wrong() == 0) {
+            askSky();
         }
         if (due.wrong() != 0) {
             System.out.println("seed " + seed + ":\n" + log);
