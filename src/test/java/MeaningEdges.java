@@ -380,6 +380,9 @@ final class MeaningEdges {
             }
             edges.is("a new one comes behind the last", Texts.record(x, texts[6], 0), left.size());
             edges.is("and is whole", x.means(left.size(), 0), 371);
+            for (int i = 0; i < left.size(); i++) {
+                edges.is("those ahead of it stay: means(" + i + ", 0)", x.means(i, 0), left.get(i));
+            }
         }
 
         nothingLeftOver();

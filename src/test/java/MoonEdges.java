@@ -103,6 +103,8 @@ final class MoonEdges {
         edges.is("WAVE 174 of the SUN", timeAt(0, 1000), 1043);
         edges.is("WAVE 999.985 is 999", timeAt(8999, 0), 415);
         edges.is("WAVE 985.015 is 985", timeAt(8001, 0), 423);
+        edges.is("WAVE 258, nothing to floor", timeAt(1500, 0), 849);
+        edges.is("WAVE 646.075 of the SUN is 646", timeAt(0, 4025), 1160);
 
         edges.sentence("Terms", "(for p from 9000 to 18000 as for 18000 - p, above 18000 the opposite of p - 18000).");
         edges.is("9000", timeAt(9000, 0), 414);
